@@ -10,6 +10,7 @@ public final class MoneyTest {
         ledger();
         latestEntries();
         ledgerSum();
+        singleCents();
         Due.end();
     }
 
@@ -219,5 +220,21 @@ public final class MoneyTest {
         Due.is("no such kind", x.ledgerSum(0, -2), none);
         Due.is("no such patron", x.ledgerSum(2, 0), none);
         Due.is("no such patron", x.ledgerSum(-1, 0), none);
+    }
+
+    private static void singleCents() {
+        LibraryCirculation x = Due.desk(1, 0, 0);
+        x.set(2, 1);
+        x.set(6, 1);
+        x.lend(0, 0);
+        x.pass(15);
+        Due.is("lose", x.lose(0), 1);
+        Due.is("charged", x.patron(0, 4), 1);
+        x.bringBack(0, 0);
+        Due.is("given back", x.patron(0, 5), 1);
+        Due.is("charged", x.patron(0, 4), 2);
+        Due.is("pay", x.pay(0, 1), 0);
+        Due.is("paid", x.patron(0, 5), 2);
+        Due.is("entries", x.ledgerSize(), 4);
     }
 }
