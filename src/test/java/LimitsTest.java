@@ -1,6 +1,6 @@
 import java.util.function.Consumer;
 
-/** What is full, what there is nothing of, and the latest 60 entries of the ledger. */
+/** What is full, as many as there can be, what there is nothing of, and the latest 60 entries of the ledger. */
 public final class LimitsTest {
     private static final int BAD = LibraryCirculation.BAD;
     private static final int NONE = LibraryCirculation.NONE;
@@ -13,6 +13,9 @@ public final class LimitsTest {
         eightPatrons();
         twentyFourHolds();
         sixtyLetters();
+        longestQueue();
+        twentyLoans();
+        twentyOnTheWayAndOnTheShelf();
         nothingToReturn();
         nothingOfACopy();
         nothingToDo();
@@ -132,6 +135,89 @@ public final class LimitsTest {
         Due.is("what does not fit", y.feed('3'), FULL);
         Due.is("is not executed", y.execute(), 15);
         Due.is("day", y.day(), 26);
+    }
+
+    // As many as there can be
+
+    private static void longestQueue() {
+        LibraryCirculation x = new LibraryCirculation();
+        patrons(x, 8);
+        for (int patron = 7; patron >= 0; patron--) {
+            Due.is("hold", x.hold(patron, 5, patron % 4), 8 - patron);
+        }
+        for (int i = 0; i < 8; i++) {
+            Due.is("patron", x.holdAt(5, i, 0), 7 - i);
+            Due.is("branch", x.holdAt(5, i, 1), (7 - i) % 4);
+            Due.is("copy", x.holdAt(5, i, 2), NONE);
+            Due.is("place", x.place(7 - i, 5), i);
+        }
+        Due.is("one beyond", x.holdAt(5, 8, 0), NONE);
+        Due.is("one more of the first", x.hold(7, 5, 0), -103);
+        for (int patron = 7; patron >= 0; patron--) {
+            Due.is("cancelHold", x.cancelHold(patron, 5), patron);
+        }
+        Due.is("none is left", x.holdCount(-1), 0);
+    }
+
+    private static void twentyLoans() {
+        LibraryCirculation x = new LibraryCirculation();
+        copies(x, 20);
+        patrons(x, 8);
+        x.set(1, 20);
+        x.set(2, 1000);
+        x.set(3, 10000);
+        for (int copy = 0; copy < 20; copy++) {
+            x.lend(7, 19 - copy);
+        }
+        Due.is("loans", x.patron(7, 0), 20);
+        for (int i = 0; i < 20; i++) {
+            Due.is("loanOf(7, " + i + ")", x.loanOf(7, i), i);
+        }
+        Due.is("one beyond", x.loanOf(7, 20), NONE);
+        for (int patron = 0; patron < 7; patron++) {
+            Due.is("hold", x.hold(patron, 0, 0), patron + 1);
+            Due.is("estimate", x.estimate(patron, 0), 7);
+            Due.is("recalled, from the lowest on", x.copy(patron, 9), 1);
+            Due.is("the next is not", x.copy(patron + 1, 9), 0);
+        }
+        Due.is("a loan of the title", x.hold(7, 0, 0), -104);
+        x.pass(400);
+        Due.is("accrued", x.accrued(7), 200000);
+        Due.is("late", x.patron(7, 3), 20);
+        for (int copy = 0; copy < 20; copy++) {
+            x.bringBack(copy, 0);
+        }
+        Due.is("owes", x.owes(7), 200000);
+        Due.is("the last loan's fine", x.ledger(19, 3), 19);
+        Due.is("for the holds", x.copyCount(3), 7);
+        Due.is("on the shelf", x.copyCount(0), 13);
+    }
+
+    private static void twentyOnTheWayAndOnTheShelf() {
+        LibraryCirculation x = new LibraryCirculation();
+        patrons(x, 1);
+        x.set(1, 20);
+        copies(x, 20);
+        Due.is("on the shelf", x.shelf(0, -1), 20);
+        Due.is("the last", x.shelf(0, 19), 19);
+        Due.is("one beyond", x.shelf(0, 20), NONE);
+        Due.is("state 0", x.copyCount(0), 20);
+        for (int copy = 0; copy < 20; copy++) {
+            x.lend(0, copy);
+            x.bringBack(copy, copy < 10 ? 3 : 2);
+        }
+        for (int i = 0; i < 20; i++) {
+            Due.is("arriving(0, " + i + ")", x.arriving(0, i), (i + 10) % 20);
+        }
+        Due.is("one beyond", x.arriving(0, 20), NONE);
+        Due.is("state 2", x.copyCount(2), 20);
+        Due.is("state 0", x.copyCount(0), 0);
+        Due.is("shelf", x.shelf(0, -1), 0);
+        x.pass(2);
+        Due.is("shelf", x.shelf(0, -1), 10);
+        Due.is("the first", x.shelf(0, 0), 10);
+        Due.is("arriving", x.arriving(0, 9), 9);
+        Due.is("one beyond", x.arriving(0, 10), NONE);
     }
 
     // NONE

@@ -277,6 +277,7 @@ public final class ReasonsTest {
             for (int copy = 0; copy < most; copy++) {
                 Due.is(copy + " loans of " + most, x.lend(0, copy), 14);
             }
+            Due.is("as many as allowed, before the copy is looked at", x.lend(0, 0), -102);
             if (most == 20) continue;
             Due.is("as many as allowed", x.lend(0, most), -102);
             x.set(1, most == 1 ? 1 : most - 1);
