@@ -25,6 +25,8 @@ public final class EdgesTest {
         claimMadeTodayWithOneDay();
         lostFromLoanAndFromClaim();
         lostPriceIsThatOfTheDay();
+        lentAgainAfterItWasLost();
+        lentAgainAfterItWasClaimed();
         orderOfArrivals();
         orderOfExpiries();
         arrivalsBeforeExpiries();
@@ -443,6 +445,51 @@ public final class EdgesTest {
             Due.is("given back", x.patron(0, 5), price);
             Due.is("entries", x.ledgerSize(), price == 0 ? 0 : 2);
         }
+    }
+
+    private static void lentAgainAfterItWasLost() {
+        LibraryCirculation x = Due.desk(2, 0, 0);
+        x.lend(0, 0);
+        x.pass(16);
+        x.lose(0);
+        x.bringBack(0, 0);
+        Due.is("entries", x.ledgerSize(), 3);
+        x.lend(1, 0);
+        Due.is("the fine that was noted is of the past", x.fine(0), 0);
+        Due.is("nothing is accrued", x.accrued(1), 0);
+        x.pass(15);
+        x.bringBack(0, 0);
+        Due.is("its fine alone", x.owes(1), 25);
+        Due.is("the price is not given back again", x.patron(1, 5), 0);
+        Due.is("entries", x.ledgerSize(), 4);
+        x.lend(1, 0);
+        x.claim(0);
+        Due.is("the fine of this claim", x.fine(0), 0);
+        x.bringBack(0, 0);
+        Due.is("nothing for a claimed copy", x.ledgerSize(), 4);
+        x.lend(1, 0);
+        x.set(6, 40);
+        Due.is("lost anew, for the price of now", x.lose(0), 65);
+        x.bringBack(0, 0);
+        Due.is("which is given back", x.owes(1), 25);
+        Due.is("the first patron", x.owes(0), 50);
+    }
+
+    private static void lentAgainAfterItWasClaimed() {
+        LibraryCirculation x = Due.desk(1, 0, 0);
+        x.lend(0, 0);
+        x.pass(20);
+        x.claim(0);
+        x.bringBack(0, 0);
+        x.lend(0, 0);
+        Due.is("no claim", x.patron(0, 2), 0);
+        Due.is("no fine", x.fine(0), 0);
+        x.bringBack(0, 0);
+        Due.is("no claim less", x.patron(0, 2), 0);
+        x.lend(0, 0);
+        x.pass(15);
+        x.lose(0);
+        Due.is("the fine of the day it was lost", x.fine(0), 25);
     }
 
     private static void orderOfArrivals() {
